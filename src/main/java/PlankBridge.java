@@ -4,7 +4,7 @@ public final class PlankBridge {
 
     private static final int MOST_PEOPLE = 10, MOST_PLANKS = 400, FIRST_PLANKS = 20;
     private static final int LAST_MINUTE = 999, NEVER = 1000, NIGHT_EVERY = 240;
-    private static final int BELOW_ZERO = 100000;
+    private static final int BELOW_ZERO = 100000, BEYOND_ALL = 1000000;
 
     // The laws, by their numbers.
     private static final int GROWS = 0, COUNT = 1, SPAN = 2, NIGHT = 3, ROPES = 4, FORD = 5, LAWS = 6;
@@ -287,11 +287,11 @@ public final class PlankBridge {
         if (now.size < 2) {
             return NOT;
         }
-        int least = Integer.MAX_VALUE;
+        int least = BEYOND_ALL;
         int answer = 0;
         for (int person = 0; person < now.size; person++) {
             for (int other = 0; other < now.size; other++) {
-                int sum = person == other ? Integer.MAX_VALUE : sumIfHeld(person, other);
+                int sum = person == other ? BEYOND_ALL : sumIfHeld(person, other);
                 if (sum < least) {
                     least = sum;
                     answer = what == 0 ? person : other;
@@ -321,7 +321,7 @@ public final class PlankBridge {
             return BAD;
         }
         int best = 0;
-        int least = Integer.MAX_VALUE;
+        int least = BEYOND_ALL;
         day.load(now);
         for (int set = 0; set < 1 << now.size; set++) {
             if (Integer.bitCount(set) > r) {
@@ -1121,8 +1121,8 @@ public final class PlankBridge {
 
         private void begin(Day day, State state) {
             day.loadOnce(state, who, size);
-            bestLast = Integer.MAX_VALUE;
-            bestSum = Integer.MAX_VALUE;
+            bestLast = BEYOND_ALL;
+            bestSum = BEYOND_ALL;
         }
 
         private void keepIfBetter(Day day) {

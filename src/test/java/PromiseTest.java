@@ -281,6 +281,9 @@ public final class PromiseTest {
         }
         due("none came", x.count(0), 0);
         due("nothing typed", x.people(), -20);
+        due("two", people(x, "0nw1;1nw1"), 2);
+        due("one more", people(x, "2nw1"), 1);
+        due("and no other", x.count(0), 3);
     }
 
     private static void count() {
@@ -364,6 +367,7 @@ public final class PromiseTest {
         }
         x = new PlankBridge();
         x.rule(3, 7);
+        due("ropes", x.at(239, 4), 99);
         due("ahead of the night", x.at(239, 0), 20);
         due("first night", x.at(240, 0), 13);
         due("second night", x.at(480, 0), 6);
@@ -445,6 +449,7 @@ public final class PromiseTest {
         due("companies", x.soonest(14, 0) * 100 + x.soonest(14, 1) * 10 + x.soonest(14, 2), 12);
         due("one", x.soonest(8, -1), 2);
         due("its company", x.soonest(8, 0), 0);
+        due("the first", x.soonest(1, -2), 10);
         x.rule(3, 50);
         x.rule(5, 1);
         x.rule(4, 0);
@@ -531,7 +536,10 @@ public final class PromiseTest {
         due("wrong, too", x.waits(2), BAD);
         people(x, "0nw4");
         due("one", x.waits(1), NOT);
-        people(x, "0nw4;0nw10;0nw4");
+        people(x, "0nw4");
+        due("two", x.waits(0), 0);
+        due("two", x.waits(1), 1);
+        people(x, "0nw10;0nw4");
         x.rule(0, 9);
         due("who", x.waits(0), 2);
         due("whom", x.waits(1), 0);
@@ -766,6 +774,11 @@ public final class PromiseTest {
         x.item(0, 0, 0, 256 + 7);
         due("its lowest bits", x.crowd(0, 0, 0, 1), 1);
         due("told", x.told(0, 0), 7);
+        due("none else came", x.count(0), 1);
+        x.sheet(0, 0, 10);
+        fill(x, 0, 0, 0, new int[] {0, 0, 0, 1, 1, 0, 0, 0, 1, 1});
+        due("one of two", x.crowd(0, 0, 0, 1), 1);
+        due("not the other", x.count(0), 2);
         x.sheet(0, 0, 0);
         due("an empty row", x.crowd(0, 0, 0, 1), INDEX);
     }
@@ -811,6 +824,13 @@ public final class PromiseTest {
         due("crowd", x.crowd(0, 2, 0, 1), 1);
         x.sheet(0, 2, 5);
         due("a new row", x.crowd(0, 2, 0, 1), NOT);
+        fill(x, 0, 2, 1, new int[] {0, 0, 1, 1});
+        due("with four of its items", x.crowd(0, 2, 0, 1), 1);
+        due("the first of them is 0", x.told(1, 0), 0);
+        x.sheet(0, 2, 4);
+        x.sheet(0, 2, 5);
+        fill(x, 0, 2, 0, new int[] {0, 0, 0, 1});
+        due("the last of them is 0", x.crowd(0, 2, 0, 1), NOT);
         // Lowest bits: of a short 65536 + 3 is 3, of an int it is not.
         x.sheet(1, 1, 5);
         fill(x, 1, 1, 0, new int[] {65536 + 3, 65536, -65536, 1, 131072 + 1});
@@ -864,6 +884,30 @@ public final class PromiseTest {
         due("262 is 6", x.told(5, 0), 6);
         x.clear();
         due("nobody", x.film(1, 0, 5), 0);
+        // Items around those that it fills stay as they were.
+        x = with("0nw20");
+        x.planks(30);
+        x.sheet(2, 2, 6);
+        fill(x, 2, 2, 0, new int[] {7, 1, 1, 3, 9, 6});
+        due("one", x.film(2, 2, 1), 1);
+        x.item(2, 2, 1, 1);
+        due("as it was", x.crowd(2, 2, 0, 1), NOT);
+        x.item(2, 2, 4, 5);
+        due("as a person", x.crowd(2, 2, 0, 1), 1);
+        int[] want = {7, 1, 1, 6, 5};
+        for (int what = 0; what < 5; what++) {
+            due("told(1, " + what + ")", x.told(1, what), want[what]);
+        }
+        x.clear();
+        people(x, "0nw20");
+        x.planks(30);
+        fill(x, 2, 2, 0, new int[] {7, 1, 1, 3, 4, 6});
+        due("one", x.film(2, 2, 0), 1);
+        due("as a person", x.crowd(2, 2, 0, 1), 1);
+        int[] then = {2, 1, 1, 6, 4};
+        for (int what = 0; what < 5; what++) {
+            due("told(1, " + what + ")", x.told(1, what), then[what]);
+        }
     }
 
     public static void main(String[] args) {
