@@ -273,12 +273,39 @@ public final class EdgesOfBridgeTest {
         due("9 stays 60", full.told(9, 5), 60);
         due("ford", full.rule(5, 0), 200);
         due("planks", full.planks(20), 400);
+        imagesKeepEachOfThem();
         PlankBridge empty = new PlankBridge();
         due("image of nobody", empty.image(), 1);
         empty.person(0, 0, 0, 5, 1);
         due("restored", empty.restore(), 1);
         due("nobody", empty.count(0), 0);
         due("nor 0", empty.told(0, 0), BAD);
+    }
+
+    /** Ten others take the places of those in the image; then those are back, all as they were. */
+    private static void imagesKeepEachOfThem() {
+        PlankBridge x = new PlankBridge();
+        for (int i = 0; i < 10; i++) {
+            x.person(i, i % 2, i % 4, 2 + i, 1 + i % 6);
+            x.stay(i, i);
+        }
+        for (int i = 0; i < 10; i++) {
+            x.hold(i, 9 - i);
+        }
+        x.image();
+        x.clear();
+        for (int i = 0; i < 10; i++) {
+            x.person(499, 1 - i % 2, 3 - i % 4, 20, 6 - i % 6);
+            x.stay(i, 60);
+        }
+        due("restored", x.restore(), 1);
+        for (int i = 0; i < 10; i++) {
+            int pace = i % 4 == 0 ? 2 + i : i % 4 == 2 ? (2 + i) / 2 : 2 * (2 + i);
+            int[] want = {i, i % 2, i % 4, pace, 1 + i % 6, i, 9 - i};
+            for (int what = 0; what < 7; what++) {
+                due("told(" + i + ", " + what + ")", x.told(i, what), want[what]);
+            }
+        }
     }
 
     private static void imagesLeaveSheetsAndTape() {
@@ -313,6 +340,7 @@ public final class EdgesOfBridgeTest {
         due("people at most", x.count(0), 10);
         due("trips at most", x.count(1), 60);
         due("to bank 0", x.count(2), 1);
+        due("all to bank 0", crowded(10).count(2), 10);
         for (int what = 0; what < 3; what++) {
             due("of nobody", new PlankBridge().count(what), 0);
         }

@@ -406,6 +406,7 @@ public final class EdgesOfDaysTest {
         due("made", x.fate(0, 1), 2);
         due("by the ford", x.fate(0, 2), 2);
         due("in all", x.all(4), 2);
+        due("of several", Bridges.of(21, "g0f4", "0nw5t2;0nw20;0sw5t3").all(4), 5);
     }
 
     private static void waitingCountsToTheEnd() {
