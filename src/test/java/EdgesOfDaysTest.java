@@ -402,6 +402,7 @@ public final class EdgesOfDaysTest {
         due("in all", x.all(4), 3);
         x.rule(5, 167);
         x.stay(0, 0);
+        // The third trip is still under way: it is not one that it has made.
         due("in 1000", over(x, 0), NONE);
         due("made", x.fate(0, 1), 2);
         due("by the ford", x.fate(0, 2), 2);

@@ -79,6 +79,7 @@ public final class EdgesOfWouldBeTest {
         PlankBridge x = Bridges.of(20, "g9n50r0f1", "499nw2t6;0nw20;0nw20;300sw10t6");
         x.stay(0, 60);
         x.hold(0, 1);
+        x.hold(1, 0);
         x.hold(3, 0);
         soonest("both", x, 0b1001, 10, 20, "00");
         inOrder("both", x, new int[] {0b1001, 0}, 15, 17, "03");
